@@ -1,0 +1,80 @@
+/** What the tests share: counting the answers that are not as due, and making moves from rows. */
+final class Due {
+    private int asked;
+    private int wrong;
+
+    void same(String call, long got, long want) {
+        asked++;
+        if (got != want) {
+            wrong++;
+            System.out.println(call + " answered " + got + ", due is " + want);
+        }
+    }
+
+    void yes(String call, boolean got) {
+        same(call, got ? 1 : 0, 1);
+    }
+
+    void no(String call, boolean got) {
+        same(call, got ? 1 : 0, 0);
+    }
+
+    void end() {
+        System.out.println(asked + " answers, " + wrong + " not as due");
+        if (wrong != 0 || asked == 0) {
+            System.exit(1);
+        }
+    }
+
+    /** A new move that puts each place to where the row says, by calls of cycle. */
+    static int makeMove(CycleGroups groups, int[] row) {
+        int move = groups.move();
+        boolean[] seen = new boolean[row.length];
+        for (int start = 0; start < row.length; start++) {
+            for (int at = start; !seen[at]; at = row[at]) {
+                seen[at] = true;
+                if (row[at] != start) {
+                    groups.cycle(move, at, row[at]);
+                }
+            }
+        }
+        return move;
+    }
+
+    /** A new move that is the cycles given, one behind the other: each puts a place to the next. */
+    static int makeCycles(CycleGroups groups, int[]... cycles) {
+        int move = groups.move();
+        for (int[] cycle : cycles) {
+            for (int k = 0; k + 1 < cycle.length; k++) {
+                groups.cycle(move, cycle[k], cycle[k + 1]);
+            }
+        }
+        return move;
+    }
+
+    /** The answers of order, as one text, the highest digit first. */
+    static String orderText(CycleGroups groups) {
+        StringBuilder text = new StringBuilder();
+        for (int i = 0; groups.order(i) >= 0; i++) {
+            text.append(groups.order(i));
+        }
+        return text.reverse().toString();
+    }
+
+    /** The answers of stabiliser for a place, as one text, the highest digit first. */
+    static String stabiliserText(CycleGroups groups, int place) {
+        StringBuilder text = new StringBuilder();
+        for (int i = 0; groups.stabiliser(place, i) >= 0; i++) {
+            text.append(groups.stabiliser(place, i));
+        }
+        return text.reverse().toString();
+    }
+
+    void sameText(String call, String got, String want) {
+        asked++;
+        if (!got.equals(want)) {
+            wrong++;
+            System.out.println(call + " answered " + got + ", due is " + want);
+        }
+    }
+}
