@@ -20,7 +20,6 @@ public final class CycleGroups {
     private int movesMade;
     private final int[][] states;
     private int statesMade;
-    private final int[] work;
     private final Partition partition;
     private final Decimal decimal;
     private Chain chain;
@@ -30,7 +29,6 @@ public final class CycleGroups {
         this.places = Math.max(1, Math.min(MOST_PLACES, places));
         this.moves = new int[MOST_MOVES][this.places];
         this.states = new int[MOST_STATES][this.places];
-        this.work = new int[this.places];
         this.partition = new Partition(this.places);
         this.decimal = new Decimal();
     }
@@ -89,7 +87,7 @@ public final class CycleGroups {
     }
 
     public int order(int i) {
-        countGroup();
+        countGroup(freshChain());
         return decimal.digit(i);
     }
 
@@ -99,7 +97,7 @@ public final class CycleGroups {
         }
         partition.separate();
         partition.joinOrbits(moves, movesMade);
-        countGroup();
+        countGroup(freshChain());
         // As many of the group put the place to one place of its orbit as to another.
         decimal.divide(partition.sizeWith(place));
         return decimal.digit(i);
@@ -177,11 +175,11 @@ public final class CycleGroups {
         if (!isState(state)) {
             return -1;
         }
-        return failingPlace(states[state]) == places ? 1 : 0;
+        return freshChain().failingPlace(states[state]) == places ? 1 : 0;
     }
 
     public int level(int state) {
-        return isState(state) ? failingPlace(states[state]) : -1;
+        return isState(state) ? freshChain().failingPlace(states[state]) : -1;
     }
 
     public int parity(int state) {
@@ -236,17 +234,11 @@ public final class CycleGroups {
         return chain;
     }
 
-    private void countGroup() {
-        Chain fresh = freshChain();
+    private void countGroup(Chain fresh) {
         decimal.setOne();
         for (int i = 0; i < places; i++) {
             decimal.multiply(fresh.spreadSize(i));
         }
-    }
-
-    private int failingPlace(int[] row) {
-        System.arraycopy(row, 0, work, 0, places);
-        return freshChain().sift(work, 0);
     }
 
     private static void leaveAll(int[] row) {
@@ -409,7 +401,7 @@ public final class CycleGroups {
      * group and, for each place of the spread of i, a row of that part that brings it back to i.
      */
     private static final class Chain {
-        /** Far above the some 10,000 pairs of places and rows that 24 places can give. */
+        /** Far above the some 10,000 steps that the pairs of 24 links can give. */
         private static final int MOST_STEPS = 1000000;
 
         private final int places;
@@ -430,8 +422,7 @@ public final class CycleGroups {
                 links[i].clear();
             }
             for (int m = 0; m < count; m++) {
-                System.arraycopy(moves[m], 0, work, 0, places);
-                if (sift(work, 0) < places) {
+                if (failingPlace(moves[m]) < places) {
                     links[0].addGenerator(work);
                     complete();
                 }
@@ -442,17 +433,20 @@ public final class CycleGroups {
             return links[i].spreadSize();
         }
 
+        /** The first place at which a row leaves the chain; what is left of the row is in work. */
+        int failingPlace(int[] row) {
+            System.arraycopy(row, 0, work, 0, places);
+            return siftWork(0);
+        }
+
         /**
-         * Undoes a row by the links from a place on, and answers the first place at which the row
+         * Undoes the work row by the links from a place on, and answers the first place at which it
          * leaves the spread; the number of places when there is none.
          */
-        int sift(int[] row, int from) {
+        private int siftWork(int from) {
             for (int i = from; i < places; i++) {
-                if (!links[i].reaches(row[i])) {
+                if (work[i] != i && !links[i].undo(work)) {
                     return i;
-                }
-                if (row[i] != i) {
-                    follow(row, links[i].wayBack(row[i]));
                 }
             }
             return places;
@@ -479,7 +473,7 @@ public final class CycleGroups {
                 return at;
             }
             int below = at + 1;
-            if (below >= places || sift(work, below) >= places) {
+            if (below >= places || siftWork(below) >= places) {
                 return at;
             }
             links[below].addGenerator(work);
@@ -487,7 +481,7 @@ public final class CycleGroups {
         }
     }
 
-    /** One link of the chain. */
+    /** One link of the chain; the places of its spread and their ways back stand in one order. */
     private static final class Link {
         private final int[][] generators;
         private int generatorsHeld;
@@ -527,13 +521,22 @@ public final class CycleGroups {
             return spreadHeld;
         }
 
-        boolean reaches(int place) {
-            return indexInSpread[place] >= 0;
-        }
-
-        /** The row that brings a place of the spread back to the link's own place. */
-        int[] wayBack(int place) {
-            return waysBack[Math.max(0, indexInSpread[place])];
+        /**
+         * Brings the link's own place back, behind a row that leaves the places before it; false,
+         * doing nothing, when the row puts it out of the spread.
+         */
+        boolean undo(int[] row) {
+            int own = spreadPlaces[0];
+            int index = indexInSpread[row[own]];
+            if (index < 0) {
+                return false;
+            }
+            int[] back = waysBack[index];
+            // The places before are left by both rows.
+            for (int p = own; p < row.length; p++) {
+                row[p] = back[row[p]];
+            }
+            return true;
         }
 
         void addGenerator(int[] row) {
@@ -561,15 +564,15 @@ public final class CycleGroups {
          */
         boolean reachesNewPlace(int g, int[] round) {
             int[] generator = generators[g];
-            int place = spreadPlaces[paired[g]];
+            int[] back = waysBack[paired[g]];
+            int reached = generator[spreadPlaces[paired[g]]];
             paired[g]++;
-            int[] back = wayBack(place);
-            int reached = generator[place];
-            if (!reaches(reached)) {
+            int index = indexInSpread[reached];
+            if (index < 0) {
                 widen(reached, generator, back);
                 return true;
             }
-            int[] backFromReached = wayBack(reached);
+            int[] backFromReached = waysBack[index];
             for (int p = 0; p < round.length; p++) {
                 round[back[p]] = backFromReached[generator[p]];
             }
