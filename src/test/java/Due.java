@@ -2,12 +2,35 @@
 final class Due {
     private int asked;
     private int wrong;
+    private int tests;
+    private String sentence = "";
+
+    /** A test of its own for one sentence: what it finds is told with the sentence's words. */
+    void test(String words, Runnable asking) {
+        int askedBefore = asked;
+        tests++;
+        sentence = "[" + words + "] ";
+        try {
+            asking.run();
+        } catch (RuntimeException thrown) {
+            // The class never throws; one that does fails this test, and the others still run.
+            tellWrong("threw " + thrown);
+        }
+        if (asked == askedBefore) {
+            tellWrong("asked nothing");
+        }
+        sentence = "";
+    }
+
+    private void tellWrong(String text) {
+        wrong++;
+        System.out.println(sentence + text);
+    }
 
     void same(String call, long got, long want) {
         asked++;
         if (got != want) {
-            wrong++;
-            System.out.println(call + " answered " + got + ", due is " + want);
+            tellWrong(call + " answered " + got + ", due is " + want);
         }
     }
 
@@ -20,7 +43,8 @@ final class Due {
     }
 
     void end() {
-        System.out.println(asked + " answers, " + wrong + " not as due");
+        String own = tests > 0 ? tests + " tests, " : "";
+        System.out.println(own + asked + " answers, " + wrong + " not as due");
         if (wrong != 0 || asked == 0) {
             System.exit(1);
         }
@@ -73,8 +97,7 @@ final class Due {
     void sameText(String call, String got, String want) {
         asked++;
         if (!got.equals(want)) {
-            wrong++;
-            System.out.println(call + " answered " + got + ", due is " + want);
+            tellWrong(call + " answered " + got + ", due is " + want);
         }
     }
 }
