@@ -1,5 +1,11 @@
 /** What the tests share: counting the answers that are not as due, and making moves from rows. */
 final class Due {
+    /** A test takes a second at most; one that takes so long is held up by a call that does not end. */
+    private static final long MOST_MILLISECONDS = 90_000;
+
+    /** More digits than any number here has, so that a class that never answers -1 is found out. */
+    private static final int MOST_DIGITS = 40;
+
     private int asked;
     private int wrong;
     private int tests;
@@ -10,16 +16,33 @@ final class Due {
         int askedBefore = asked;
         tests++;
         sentence = "[" + words + "] ";
+        Thread watch = watch(words);
         try {
             asking.run();
         } catch (RuntimeException thrown) {
             // The class never throws; one that does fails this test, and the others still run.
             tellWrong("threw " + thrown);
         }
+        watch.interrupt();
         if (asked == askedBefore) {
             tellWrong("asked nothing");
         }
         sentence = "";
+    }
+
+    private static Thread watch(String words) {
+        Thread watch = new Thread(() -> {
+            try {
+                Thread.sleep(MOST_MILLISECONDS);
+                System.out.println("[" + words + "] does not end");
+                Runtime.getRuntime().halt(1);
+            } catch (InterruptedException ended) {
+                // The test has ended in time.
+            }
+        });
+        watch.setDaemon(true);
+        watch.start();
+        return watch;
     }
 
     private void tellWrong(String text) {
@@ -79,8 +102,10 @@ final class Due {
     /** The answers of order, as one text, the highest digit first. */
     static String orderText(CycleGroups groups) {
         StringBuilder text = new StringBuilder();
-        for (int i = 0; groups.order(i) >= 0; i++) {
-            text.append(groups.order(i));
+        int digit = groups.order(0);
+        for (int i = 1; i < MOST_DIGITS && digit >= 0; i++) {
+            text.append(digit);
+            digit = groups.order(i);
         }
         return text.reverse().toString();
     }
@@ -88,8 +113,10 @@ final class Due {
     /** The answers of stabiliser for a place, as one text, the highest digit first. */
     static String stabiliserText(CycleGroups groups, int place) {
         StringBuilder text = new StringBuilder();
-        for (int i = 0; groups.stabiliser(place, i) >= 0; i++) {
-            text.append(groups.stabiliser(place, i));
+        int digit = groups.stabiliser(place, 0);
+        for (int i = 1; i < MOST_DIGITS && digit >= 0; i++) {
+            text.append(digit);
+            digit = groups.stabiliser(place, i);
         }
         return text.reverse().toString();
     }

@@ -49,16 +49,19 @@ public final class Edges03CycleTest {
 
     private static void noSuchMove() {
         for (int m : Edges.outside(0)) {
-            Edges.refused(due, "cycle(" + m + ", 0, 1) without moves", Edges.BARE_24,
-                x -> x.cycle(m, 0, 1));
+            refused(Edges.BARE_24, m, 0, 1);
+            refused(Edges.BARE_24, m, 1, 0);
         }
+        // Places that all the moves leave, and such as some move puts elsewhere.
         for (int m : Edges.outside(2)) {
-            Edges.refused(due, "cycle(" + m + ", 3, 4) with 2 moves", Edges.SMALL,
-                x -> x.cycle(m, 3, 4));
+            refused(Edges.SMALL, m, 3, 4);
+            refused(Edges.SMALL, m, 3, 0);
+            refused(Edges.SMALL, m, 0, 3);
         }
         for (int m : Edges.outside(10)) {
-            Edges.refused(due, "cycle(" + m + ", 22, 23) with 10 moves", Edges.FULL,
-                x -> x.cycle(m, 22, 23));
+            refused(Edges.FULL, m, 22, 23);
+            refused(Edges.FULL, m, 22, 0);
+            refused(Edges.FULL, m, 19, 22);
         }
         for (int m = 0; m < 10; m++) {
             due.yes("cycle(" + m + ", 22, 23) with 10 moves", Edges.FULL.get().cycle(m, 22, 23));
@@ -67,18 +70,22 @@ public final class Edges03CycleTest {
         due.yes("cycle(1, 3, 4) with 2 moves", Edges.SMALL.get().cycle(1, 3, 4));
     }
 
+    private static void refused(Supplier<CycleGroups> making, int move, int from, int to) {
+        Edges.refused(due, "cycle(" + move + ", " + from + ", " + to + ")", making,
+            x -> x.cycle(move, from, to));
+    }
+
     private static void noSuchFrom() {
         for (int p : Edges.outside(1)) {
-            Edges.refused(due, "cycle(0, " + p + ", 0) of 1 place", Edges.ONE_PLACE,
-                x -> x.cycle(0, p, 0));
+            refused(Edges.ONE_PLACE, 0, p, 0);
         }
         for (int p : Edges.outside(5)) {
-            Edges.refused(due, "cycle(0, " + p + ", 4) of 5 places", Edges.SMALL,
-                x -> x.cycle(0, p, 4));
+            refused(Edges.SMALL, 0, p, 3);
+            refused(Edges.SMALL, 0, p, 4);
         }
         for (int p : Edges.outside(24)) {
-            Edges.refused(due, "cycle(9, " + p + ", 0) of 24 places", Edges.FULL,
-                x -> x.cycle(9, p, 0));
+            refused(Edges.FULL, 9, p, 0);
+            refused(Edges.FULL, 9, p, 23);
         }
         due.yes("cycle(0, 0, 4) of 5 places", Edges.SMALL.get().cycle(0, 0, 4));
         due.yes("cycle(0, 4, 3) of 5 places", Edges.SMALL.get().cycle(0, 4, 3));
@@ -88,16 +95,15 @@ public final class Edges03CycleTest {
 
     private static void noSuchTo() {
         for (int p : Edges.outside(1)) {
-            Edges.refused(due, "cycle(0, 0, " + p + ") of 1 place", Edges.ONE_PLACE,
-                x -> x.cycle(0, 0, p));
+            refused(Edges.ONE_PLACE, 0, 0, p);
         }
         for (int p : Edges.outside(5)) {
-            Edges.refused(due, "cycle(0, 4, " + p + ") of 5 places", Edges.SMALL,
-                x -> x.cycle(0, 4, p));
+            refused(Edges.SMALL, 0, 3, p);
+            refused(Edges.SMALL, 1, 4, p);
         }
         for (int p : Edges.outside(24)) {
-            Edges.refused(due, "cycle(9, 0, " + p + ") of 24 places", Edges.FULL,
-                x -> x.cycle(9, 0, p));
+            refused(Edges.FULL, 9, 0, p);
+            refused(Edges.FULL, 9, 23, p);
         }
         due.yes("cycle(1, 4, 0) of 5 places", Edges.SMALL.get().cycle(1, 4, 0));
         due.yes("cycle(0, 3, 4) of 5 places", Edges.SMALL.get().cycle(0, 3, 4));
@@ -106,14 +112,12 @@ public final class Edges03CycleTest {
     }
 
     private static void theyAreOne() {
-        Edges.refused(due, "cycle(0, 0, 0) of 1 place", Edges.ONE_PLACE, x -> x.cycle(0, 0, 0));
-        for (int place = 0; place < 24; place++) {
-            int p = place;
-            Edges.refused(due, "cycle(5, " + p + ", " + p + ")", Edges.FULL, x -> x.cycle(5, p, p));
+        refused(Edges.ONE_PLACE, 0, 0, 0);
+        for (int p = 0; p < 24; p++) {
+            refused(Edges.FULL, 5, p, p);
         }
         for (int far : Edges.outside(24)) {
-            Edges.refused(due, "cycle(5, " + far + ", " + far + ")", Edges.FULL,
-                x -> x.cycle(5, far, far));
+            refused(Edges.FULL, 5, far, far);
         }
     }
 
@@ -121,25 +125,19 @@ public final class Edges03CycleTest {
         // Of move 0 of SMALL, 0, 1 and 2 are on their way, and 3 and 4 at rest.
         for (int from = 0; from < 5; from++) {
             for (int to = 0; to < 3; to++) {
-                int a = from;
-                int b = to;
-                Edges.refused(due, "cycle(0, " + a + ", " + b + ")", Edges.SMALL,
-                    x -> x.cycle(0, a, b));
+                refused(Edges.SMALL, 0, from, to);
             }
         }
         due.yes("cycle(1, 1, 0): another move puts 0 elsewhere", Edges.SMALL.get().cycle(1, 1, 0));
         due.yes("cycle(0, 2, 3): from may be on its way", Edges.SMALL.get().cycle(0, 2, 3));
-        Supplier<CycleGroups> full = Edges.with(Edges.BARE_24, x -> {
+        Supplier<CycleGroups> turn = Edges.with(Edges.BARE_24, x -> {
             x.move();
             for (int p = 0; p < 23; p++) {
                 x.cycle(0, p, p + 1);
             }
         });
-        for (int place = 0; place < 24; place++) {
-            int to = place;
-            int from = (place + 7) % 24;
-            Edges.refused(due, "cycle(0, " + from + ", " + to + ") of a cycle of all", full,
-                x -> x.cycle(0, from, to));
+        for (int to = 0; to < 24; to++) {
+            refused(turn, 0, (to + 7) % 24, to);
         }
     }
 

@@ -10,7 +10,7 @@ public final class Edges07OrderTest {
         due.test("without any: the one that leaves all places", Edges07OrderTest::withoutMoves);
         due.test("-1 when there is none such: above", Edges07OrderTest::above);
         due.test("-1 when there is none such: below", Edges07OrderTest::below);
-        due.test("a digit 0 is one such", Edges07OrderTest::zerosAreDigits);
+        due.test("-1 when there is none such: a digit 0 is one", Edges07OrderTest::zerosAreDigits);
         due.end();
     }
 

@@ -79,6 +79,10 @@ public final class Edges10BlockTest {
                 due.same("block(" + p + ", last) of " + places, x.block(p, places - 1), -1);
             }
         }
+        CycleGroups all = Edges.allWays(24);
+        for (int p : Edges.outside(24)) {
+            due.same("block(" + p + ", 12) of all ways", all.block(p, 12), -1);
+        }
     }
 
     private static void noSuchSecond() {
@@ -88,6 +92,10 @@ public final class Edges10BlockTest {
                 due.same("block(0, " + p + ") of " + places, x.block(0, p), -1);
                 due.same("block(last, " + p + ") of " + places, x.block(places - 1, p), -1);
             }
+        }
+        CycleGroups all = Edges.allWays(24);
+        for (int p : Edges.outside(24)) {
+            due.same("block(12, " + p + ") of all ways", all.block(12, p), -1);
         }
     }
 

@@ -1,3 +1,5 @@
+import java.util.function.Supplier;
+
 /** The edges of promise 13, a test for each sentence. */
 public final class Edges13ExchangeTest {
     private static final Due due = new Due();
@@ -48,62 +50,58 @@ public final class Edges13ExchangeTest {
 
     private static void noSuchState() {
         for (int s : Edges.outside(0)) {
-            Edges.refused(due, "exchange(" + s + ", 0, 1) without states", Edges.BARE_24,
-                x -> x.exchange(s, 0, 1));
+            refused(Edges.BARE_24, s, 0, 1);
         }
         for (int s : Edges.outside(2)) {
-            Edges.refused(due, "exchange(" + s + ", 0, 4) with 2 states", Edges.SMALL,
-                x -> x.exchange(s, 0, 4));
+            refused(Edges.SMALL, s, 0, 4);
         }
         for (int s : Edges.outside(20)) {
-            Edges.refused(due, "exchange(" + s + ", 0, 23) with 20 states", Edges.FULL,
-                x -> x.exchange(s, 0, 23));
+            refused(Edges.FULL, s, 0, 23);
         }
         due.yes("exchange(0, 0, 23) with 20 states", Edges.FULL.get().exchange(0, 0, 23));
         due.yes("exchange(19, 0, 23) with 20 states", Edges.FULL.get().exchange(19, 0, 23));
     }
 
+    private static void refused(Supplier<CycleGroups> making, int state, int a, int b) {
+        Edges.refused(due, "exchange(" + state + ", " + a + ", " + b + ")", making,
+            x -> x.exchange(state, a, b));
+    }
+
     private static void noSuchFirst() {
         for (int p : Edges.outside(1)) {
-            Edges.refused(due, "exchange(0, " + p + ", 0) of 1 place", Edges.ONE_PLACE,
-                x -> x.exchange(0, p, 0));
+            refused(Edges.ONE_PLACE, 0, p, 0);
         }
         for (int p : Edges.outside(5)) {
-            Edges.refused(due, "exchange(0, " + p + ", 4) of 5 places", Edges.SMALL,
-                x -> x.exchange(0, p, 4));
+            refused(Edges.SMALL, 0, p, 0);
+            refused(Edges.SMALL, 1, p, 4);
         }
         for (int p : Edges.outside(24)) {
-            Edges.refused(due, "exchange(19, " + p + ", 0) of 24 places", Edges.FULL,
-                x -> x.exchange(19, p, 0));
+            refused(Edges.FULL, 19, p, 0);
+            refused(Edges.FULL, 0, p, 23);
         }
     }
 
     private static void noSuchSecond() {
         for (int p : Edges.outside(1)) {
-            Edges.refused(due, "exchange(0, 0, " + p + ") of 1 place", Edges.ONE_PLACE,
-                x -> x.exchange(0, 0, p));
+            refused(Edges.ONE_PLACE, 0, 0, p);
         }
         for (int p : Edges.outside(5)) {
-            Edges.refused(due, "exchange(1, 4, " + p + ") of 5 places", Edges.SMALL,
-                x -> x.exchange(1, 4, p));
+            refused(Edges.SMALL, 0, 0, p);
+            refused(Edges.SMALL, 1, 4, p);
         }
         for (int p : Edges.outside(24)) {
-            Edges.refused(due, "exchange(0, 23, " + p + ") of 24 places", Edges.FULL,
-                x -> x.exchange(0, 23, p));
+            refused(Edges.FULL, 19, 0, p);
+            refused(Edges.FULL, 0, 23, p);
         }
     }
 
     private static void theyAreOne() {
-        Edges.refused(due, "exchange(0, 0, 0) of 1 place", Edges.ONE_PLACE,
-            x -> x.exchange(0, 0, 0));
-        for (int place = 0; place < 24; place++) {
-            int p = place;
-            Edges.refused(due, "exchange(7, " + p + ", " + p + ")", Edges.FULL,
-                x -> x.exchange(7, p, p));
+        refused(Edges.ONE_PLACE, 0, 0, 0);
+        for (int p = 0; p < 24; p++) {
+            refused(Edges.FULL, 7, p, p);
         }
         for (int far : Edges.outside(24)) {
-            Edges.refused(due, "exchange(7, " + far + ", " + far + ")", Edges.FULL,
-                x -> x.exchange(7, far, far));
+            refused(Edges.FULL, 7, far, far);
         }
     }
 }

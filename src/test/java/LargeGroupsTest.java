@@ -150,10 +150,7 @@ public final class LargeGroupsTest {
     private static void compare(String head, int places, int[][] moves, Random random) {
         LargeGroupsTest want = new LargeGroupsTest(places);
         want.fill(moves);
-        CycleGroups x = new CycleGroups(places);
-        for (int[] move : moves) {
-            Due.makeMove(x, move);
-        }
+        CycleGroups x = made(moves);
         BigInteger order = BigInteger.ONE;
         int run = 0;
         for (int i = 0; i < places; i++) {
@@ -168,11 +165,21 @@ public final class LargeGroupsTest {
         due.same(head + "run()", x.run(), run);
         due.same(head + "base(run)", x.base(run), -1);
         due.sameText(head + "order", Due.orderText(x), order.toString());
-        stabilisers(head, x, moves, order);
-        states(head, x, want, random);
+        stabilisers(head, moves, order);
+        states(head, made(moves), want, random);
+        states(head, made(moves), want, random);
     }
 
-    private static void stabilisers(String head, CycleGroups x, int[][] moves, BigInteger order) {
+    /** A new object for each part of the questions, as an object is good for 512 calls. */
+    private static CycleGroups made(int[][] moves) {
+        CycleGroups x = new CycleGroups(moves[0].length);
+        for (int[] move : moves) {
+            Due.makeMove(x, move);
+        }
+        return x;
+    }
+
+    private static void stabilisers(String head, int[][] moves, BigInteger order) {
         int places = moves[0].length;
         for (int start = 0; start < places; start++) {
             boolean[] reached = new boolean[places];
@@ -190,6 +197,7 @@ public final class LargeGroupsTest {
                 size += reached[p] ? 1 : 0;
                 least = reached[p] ? p : least;
             }
+            CycleGroups x = made(moves);
             due.same(head + "orbit(" + start + ")", x.orbit(start), least);
             due.sameText(head + "stabiliser of " + start, Due.stabiliserText(x, start),
                 order.divide(BigInteger.valueOf(size)).toString());
@@ -197,7 +205,7 @@ public final class LargeGroupsTest {
     }
 
     private static void states(String head, CycleGroups x, LargeGroupsTest want, Random random) {
-        for (int s = 0; s < 20; s++) {
+        for (int s = 0; s < 10; s++) {
             x.state();
             x.scramble(s, random.nextLong(), random.nextInt(1001));
             for (int k = random.nextInt(3); k > 0; k--) {
