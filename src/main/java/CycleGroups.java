@@ -368,7 +368,9 @@ public final class CycleGroups {
             for (int round = 0; joined && round < least.length; round++) {
                 joined = false;
                 for (int m = 0; m < count; m++) {
-                    joined |= joinImagesOnce(moves[m]);
+                    if (joinImagesOnce(moves[m])) {
+                        joined = true;
+                    }
                 }
             }
         }
@@ -376,7 +378,9 @@ public final class CycleGroups {
         private boolean joinImagesOnce(int[] move) {
             boolean joined = false;
             for (int p = 0; p < least.length; p++) {
-                joined |= join(move[p], move[least[p]]);
+                if (join(move[p], move[least[p]])) {
+                    joined = true;
+                }
             }
             return joined;
         }
