@@ -10,6 +10,7 @@ public final class KnownGroupsTest {
         smallCube();
         productOfThree();
         elementaryAbelian();
+        eachOfTenMovesEnlarges();
         due.end();
     }
 
@@ -166,5 +167,37 @@ public final class KnownGroupsTest {
         due.same("fails at 22", x.level(0), 22);
         x.exchange(0, 22, 23);
         due.same("of the group", x.level(0), 24);
+    }
+
+    /**
+     * Eight places, and ten moves of which each makes the group larger, which is as long as such a
+     * chain of groups can be: the places are the vectors of three bits; first they are shifted, then
+     * turned by linear maps, told by what they make of 1, 2 and 4.
+     */
+    private static void eachOfTenMovesEnlarges() {
+        int[][] moves = {linear(1, 1, 2, 4), linear(2, 1, 2, 4), linear(4, 1, 2, 4),
+            linear(0, 1, 3, 4), linear(0, 1, 2, 5), linear(0, 1, 2, 6), linear(0, 2, 1, 4),
+            linear(0, 2, 4, 1), {1, 2, 0, 3, 4, 5, 6, 7}, {1, 0, 2, 3, 4, 5, 6, 7}};
+        String[] orders = {"2", "4", "8", "16", "32", "64", "192", "1344", "20160", "40320"};
+        CycleGroups askedBetween = new CycleGroups(8);
+        CycleGroups askedAtLast = new CycleGroups(8);
+        for (int m = 0; m < moves.length; m++) {
+            Due.makeMove(askedBetween, moves[m]);
+            Due.makeMove(askedAtLast, moves[m]);
+            due.sameText("with move " + m, Due.orderText(askedBetween), orders[m]);
+        }
+        due.sameText("with all ten moves", Due.orderText(askedAtLast), "40320");
+        due.same("run() with all ten moves", askedAtLast.run(), 7);
+        askedAtLast.state();
+        askedAtLast.exchange(0, 0, 7);
+        due.same("member(0) with all ten moves", askedAtLast.member(0), 1);
+    }
+
+    private static int[] linear(int shift, int ofOne, int ofTwo, int ofFour) {
+        int[] row = new int[8];
+        for (int p = 0; p < 8; p++) {
+            row[p] = shift ^ (p & 1) * ofOne ^ (p >> 1 & 1) * ofTwo ^ (p >> 2) * ofFour;
+        }
+        return row;
     }
 }

@@ -22,6 +22,7 @@ public final class LengthenedMovesTest {
         due.test("one turn of more and more places", LengthenedMovesTest::oneTurn);
         due.test("one turn of more and more places: states", LengthenedMovesTest::oneTurnStates);
         due.test("a longer move may make the group less", LengthenedMovesTest::groupGetsLess);
+        due.test("as many lengthenings as there can be", LengthenedMovesTest::mostLengthenings);
         due.test("few places, with the whole group written out", LengthenedMovesTest::fewPlaces);
         due.test("many places, with a chain made in another way", LengthenedMovesTest::manyPlaces);
         due.end();
@@ -193,6 +194,28 @@ public final class LengthenedMovesTest {
         due.same(name + ": member(0)", x.member(0), order.equals("120") ? 1 : 0);
         due.same(name + ": member(1)", x.member(1), order.equals("5") ? 0 : 1);
         due.same(name + ": level(1)", x.level(1), order.equals("5") ? 1 : 5);
+    }
+
+    /**
+     * All ten moves are lengthened in turn until none has a place left. When they are one turn, the
+     * group is that turn; while some are longer than the others by a place, it is all ways, as what
+     * the longer one does behind the shorter one undone is an exchange of two.
+     */
+    private static void mostLengthenings() {
+        CycleGroups x = new CycleGroups(24);
+        for (int m = 0; m < 10; m++) {
+            x.move();
+        }
+        for (int count = 2; count <= 24; count++) {
+            for (int m = 0; m < 10; m++) {
+                String call = "cycle(" + m + ", " + (count - 2) + ", " + (count - 1) + ")";
+                due.yes(call, x.cycle(m, count - 2, count - 1));
+                due.same("spread(1) behind " + call, x.spread(1), m == 9 ? 1 : count - 1);
+            }
+        }
+        due.sameText("order at last", Due.orderText(x), "24");
+        due.no("one more cycle", x.cycle(9, 23, 0));
+        due.same("spread(0) at last", x.spread(0), 24);
     }
 
     private static void fewPlaces() {
